@@ -674,7 +674,7 @@ public final class Carpool {
         }
 
         private int detourLength() {
-            return length() - directLength();
+            return length() - step(0, count - 1);
         }
 
         private int arrivalAt(int stop, int departure) {
@@ -896,9 +896,9 @@ public final class Carpool {
             return search(rider, driver, bare);
         }
 
-        /** Assigns the rider, unless there is no extra; returns the extra. */
+        /** Assigns a waiting rider, unless there is no extra; returns the extra. */
         private int putIn(Rider rider, Driver driver) {
-            int extra = extraInRoute(rider, driver);
+            int extra = search(rider, driver, driver.route);
             if (extra != NONE) {
                 driver.route.insert(rider, pickupAfter, dropAfter);
                 rider.state = ASSIGNED;
@@ -908,30 +908,26 @@ public final class Carpool {
         }
 
         private int search(Rider rider, Driver driver, Route route) {
+            if (route.count + 2 > MAX_STOPS) {
+                return NONE;
+            }
             int room = driver.limit - route.detourLength();
             int best = NONE;
             for (int i = 0; i < route.count - 1; i++) {
                 for (int j = i; j < route.count - 1; j++) {
                     int longer = route.lengthening(rider, i, j);
-                    if (longer <= room && (best == NONE || longer < best)
-                            && isValid(rider, driver, route, i, j)) {
-                        best = longer;
-                        pickupAfter = i;
-                        dropAfter = j;
+                    if (longer <= room && (best == NONE || longer < best)) {
+                        trial.copyFrom(route);
+                        trial.insert(rider, i, j);
+                        if (trial.keepsSeatsAndDeadlines(driver.seats, driver.departure)) {
+                            best = longer;
+                            pickupAfter = i;
+                            dropAfter = j;
+                        }
                     }
                 }
             }
             return best;
-        }
-
-        /** Whether the seats and the deadlines allow this insertion. */
-        private boolean isValid(Rider rider, Driver driver, Route route, int i, int j) {
-            if (route.count + 2 > MAX_STOPS) {
-                return false;
-            }
-            trial.copyFrom(route);
-            trial.insert(rider, i, j);
-            return trial.keepsSeatsAndDeadlines(driver.seats, driver.departure);
         }
     }
 
@@ -1214,7 +1210,7 @@ public final class Carpool {
 
         /** NONE before the start and behind the end. */
         private int byteAt(int index) {
-            return isWithin(index, 0, length - 1) && index < MAX_TEXT ? bytes[index] : NONE;
+            return 0 <= index && index < length && index < MAX_TEXT ? bytes[index] : NONE;
         }
     }
 

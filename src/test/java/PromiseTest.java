@@ -77,20 +77,17 @@ public final class PromiseTest {
         return c.addRider(x, y, x, y, 0, 9999);
     }
 
+    /** Replaces the text, with blanks at its end that are cut off again. */
     private static void write(Carpool c, String text) {
-        int length = 0;
-        int at = c.truncateText(0);
+        c.truncateText(0);
         for (int k = 0; k < text.length(); k += 4) {
             int four = 0;
             for (int b = k; b < k + 4; b++) {
                 four = four << 8 | (b < text.length() ? text.charAt(b) : ' ');
             }
-            length = c.appendText(four);
+            c.appendText(four);
         }
-        at += text.length();
-        if (length != at) {
-            c.truncateText(at);
-        }
+        c.truncateText(text.length());
     }
 
     private static void loads(String text, int statements) {
@@ -546,6 +543,7 @@ public final class PromiseTest {
         assignAndUnassign();
         match();
         matchWithoutRoom();
+        matchOfMany();
         choices();
         blockingPairs();
     }
@@ -631,6 +629,7 @@ public final class PromiseTest {
         due("the lower solo extra first", c.driverOf(2), 0);
         due("then the one on the way", c.driverOf(1), 0);
         due("refused", c.riderState(0), 0);
+        due("and nobody's", c.driverOf(0), NONE);
         Carpool order = line(4, 12, 1);
         addAlong(order, 9, 4);
         addAlong(order, 2, 8);
@@ -638,6 +637,21 @@ public final class PromiseTest {
         due("three", order.match(), 3);
         due("the most preferred was first", order.stopRider(0, 2), 1);
         due("the next one came before it", order.stopRider(0, 1), 2);
+    }
+
+    private static void matchOfMany() {
+        Carpool c = new Carpool();
+        for (int d = 0; d < 8; d++) {
+            addLine(c, 1, 40, 1 + d);
+        }
+        for (int r = 0; r < 20; r++) {
+            addAside(c, 5, 71 - r);
+        }
+        due("one for each driver", c.match(), 8);
+        for (int d = 0; d < 8; d++) {
+            due("the nearer one has the cheaper one", c.driverOf(19 - d), d);
+        }
+        due("no pair blocks", c.blockingPairs(), 0);
     }
 
     private static void choices() {
@@ -655,9 +669,19 @@ public final class PromiseTest {
         due("one that does not fit", c.riderChoice(0, 3), NONE);
         due("a negative place", c.riderChoice(0, -1), NONE);
         due("a far place", c.riderChoice(0, Integer.MAX_VALUE), NONE);
+        Carpool prices = line(1, 40, 6);
+        addLine(prices, 1, 40, 2);
+        prices.setTrip(1, 0, 57, 10, 57);
+        addAside(prices, 5, 52);
+        due("10 times 2, not 4 times 6", prices.riderChoice(0, 0), 1);
+        due("4 times 6", prices.riderChoice(0, 1), 0);
         fails("rider -1", NO_SUCH, () -> c.riderChoice(-1, 0));
         fails("rider 3", NO_SUCH, () -> c.riderChoice(3, 0));
         promise = 24;
+        Carpool first = line(1, 4, 1);
+        addAside(first, 5, 53);
+        addAside(first, 5, 52);
+        due("the only one that fits", first.driverChoice(0, 0), 1);
         due("the lowest solo extra", c.driverChoice(0, 0), 0);
         due("an equal one", c.driverChoice(0, 1), 2);
         due("the last", c.driverChoice(0, 2), 1);
@@ -720,6 +744,11 @@ public final class PromiseTest {
         addAlong(order, 8, 9);
         order.assign(0, 1);
         order.assign(1, 1);
+        Carpool half = line(2, 40, 1);
+        addAside(half, 5, 52);
+        addAside(half, 5, 53);
+        half.assign(0, 0);
+        due("a free seat beside a preferred rider", half.blockingPairs(), 1);
         due("more riders than seats; the lower number of equal prices", order.blockingPairs(), 2);
     }
 
@@ -784,6 +813,8 @@ public final class PromiseTest {
         due("the higher credit", c.replacement(0), 3);
         c.pay(1, 9999);
         due("the extra comes first", c.replacement(0), 3);
+        c.pay(2, 5);
+        due("a higher credit", c.replacement(0), 2);
         c.assign(1, 0);
         due("by the present route", c.replacement(0), 2);
         c.assign(2, 0);
@@ -834,6 +865,7 @@ public final class PromiseTest {
     private static void costsAndCredits() {
         costs();
         sharesInProportion();
+        sharesInEqualProportion();
         complete();
         creditsAndDebtors();
         meanDetour();
@@ -880,6 +912,26 @@ public final class PromiseTest {
         wrongCosts(c);
     }
 
+    private static void sharesInEqualProportion() {
+        promise = 32;
+        Carpool c = line(4, 40, 1);
+        for (int r = 0; r < 5; r++) {
+            addAside(c, 5, 51);
+        }
+        for (int r = 1; r < 4; r++) {
+            c.assign(r, 0);
+        }
+        // 10 among four is 2 and two cents; 2 among three is 0 and two cents.
+        due("two cents", c.share(1), 2 + 1 + 1);
+        due("one cent", c.share(2), 2 + 1);
+        due("no cent", c.share(3), 2);
+        due("of a waiting rider", c.share(0), NONE);
+        promise = 33;
+        due("a cent", c.driverShare(0), 3);
+        promise = 34;
+        due("the sum", c.complete(0), 9);
+    }
+
     private static void wrongCosts(Carpool c) {
         fails("rider -1", NO_SUCH, () -> c.marginal(-1));
         fails("rider 3", NO_SUCH, () -> c.marginal(3));
@@ -917,12 +969,12 @@ public final class PromiseTest {
             due("the first", c.marginal(0), 4);
             due("the second", c.marginal(1), 4);
             due("the third", c.marginal(2), 2);
-            promise = 33;
-            due("at the rate " + row[0], c.driverShare(0), row[1]);
             promise = 32;
             for (int r = 0; r < 3; r++) {
                 due("rider " + r + " at the rate " + row[0], c.share(r), row[2 + r]);
             }
+            promise = 33;
+            due("at the rate " + row[0], c.driverShare(0), row[1]);
         }
     }
 
@@ -1045,6 +1097,8 @@ public final class PromiseTest {
         mean("6 of two", c, 3, 1);
         c.unassign(2);
         mean("4 of one", c, 4, 1);
+        c.assign(2, 0);
+        mean("the first driver's too", c, 3, 1);
     }
 
     // ---- promises 41 to 45
@@ -1053,6 +1107,7 @@ public final class PromiseTest {
         textBuffer();
         goodTexts();
         loadedBoard();
+        loadedNumbers();
         wrongTokens();
         wrongNumbers();
         tooMany();
@@ -1147,10 +1202,16 @@ public final class PromiseTest {
         due("the end", c.soloExtra(3, 0), 2);
         c.addRider(1, 2, 3, 4, 0, 53);
         due("before the deadline", c.soloExtra(4, 0), NONE);
-        write(c, "rider 4 4 4 4 4 4;");
-        due("a text without a penalty", c.load(), 1);
+        write(c, "rider 4 4 4 4 4 4; driver 7 7 7 8 1 1 1 1;");
+        due("a text without a penalty", c.load(), 2);
         due("the first penalty", c.setPenalty(1), 500);
-        due("no drivers", c.driverCount(), 0);
+        due("the rider waits", c.riderState(0), 0);
+        due("the rider is nobody's", c.driverOf(0), NONE);
+        due("the rider's credit", c.riderCredit(0), 0);
+        due("the driver is open", c.isDone(0), false);
+        due("the driver's credit", c.driverCredit(0), 0);
+        due("the route", c.stopCount(0), 2);
+        due("the direct length", c.routeLength(0), 1);
         c.restore(0);
         due("the saved state stays", c.driverCount() * 10 + c.riderCount(), 12);
         due("the saved penalty", c.setPenalty(1), 3);
@@ -1171,6 +1232,22 @@ public final class PromiseTest {
         due("no code", c.errorCode(), 0);
     }
 
+    private static void loadedNumbers() {
+        promise = 43;
+        Carpool c = new Carpool();
+        write(c, "driver 0 0 10 0 2 5 48 7; driver 0 0 10 0 2 5 47 7;"
+                + "rider 1 2 30 4 55 86; rider 1 2 30 4 55 85; rider 1 2 30 4 56 86;"
+                + "rider 1 0 9 0 0 999; rider 1 0 9 0 0 999; rider 1 0 9 0 0 999;");
+        due("the statements", c.load(), 8);
+        due("the places", c.soloExtra(0, 0), 3 + 31 + 24 - 10);
+        due("the detour limit", c.soloExtra(0, 1), NONE);
+        due("the deadline", c.soloExtra(1, 0), NONE);
+        due("the ready time", c.soloExtra(2, 0), NONE);
+        due("the first seat", c.assign(3, 0), 0);
+        due("the second seat", c.assign(4, 0), 0);
+        due("no third seat", c.extra(5, 0), 16);
+    }
+
     private static void wrongTokens() {
         promise = 44;
         loadFails(";", 1, 0);
@@ -1179,6 +1256,9 @@ public final class PromiseTest {
         loadFails("drivers 0 0 0 0 1 0 0 1;", 1, 0);
         loadFails("drive", 1, 0);
         loadFails("penaltz 5;", 1, 0);
+        loadFails("penaltyz 5;", 1, 0);
+        loadFails("penaltya 5;", 1, 0);
+        loadFails("kenalty 5;", 1, 0);
         loadFails("\nriderx", 1, 1);
         loadFails("penalty", 1, 7);
         loadFails("penalty ", 1, 8);
@@ -1259,6 +1339,9 @@ public final class PromiseTest {
         addAlong(c, 2, 8);
         c.assign(0, 0);
         c.setPenalty(42);
+        c.noShow(0);
+        c.comeBack(0);
+        c.assign(0, 0);
         c.pay(0, 5);
         fails("slot -1", BAD, () -> save(c, -1));
         fails("slot 2", BAD, () -> save(c, 2));
@@ -1316,8 +1399,8 @@ public final class PromiseTest {
         due("the pickup", c.stopRider(0, 1), 0);
         due("the length", c.routeLength(0), 14);
         due("the arrival", c.arrival(0, 3), 114);
-        due("the rider's credit", c.riderCredit(0), 5);
-        due("the driver's credit", c.driverCredit(0), 0);
+        due("the rider's credit", c.riderCredit(0), 5 - 42);
+        due("the driver's credit", c.driverCredit(0), 42);
         due("the rider's place", c.soloExtra(0, 0), 4);
         due("the penalty", c.setPenalty(42), 42);
     }
@@ -1333,6 +1416,6 @@ public final class PromiseTest {
         due("and can be read", c.load(), 1);
         due("the penalty", c.setPenalty(0), 3);
         c.restore(0);
-        due("the state of before the load", c.riderCount(), 2);
+        checkSavedState(c);
     }
 }
