@@ -428,7 +428,9 @@ public final class Carpool {
     }
 
     private static int distance(int x, int y, int otherX, int otherY) {
-        return Math.abs(x - otherX) + Math.abs(y - otherY);
+        int across = x < otherX ? otherX - x : x - otherX;
+        int along = y < otherY ? otherY - y : y - otherY;
+        return across + along;
     }
 
     /** The greatest number up to "most" that divides both, which is 1 at least. */
