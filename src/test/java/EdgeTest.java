@@ -27,6 +27,7 @@ public final class EdgeTest {
         costs();
         setups();
         setupErrors();
+        everyExceptionOnOneBoard();
         orderOfExceptions();
         noSuchDrivers();
         noSuchRiders();
@@ -1089,6 +1090,28 @@ public final class EdgeTest {
                 + "lower number first",
                 proportion(1, "3 6 5 4"), proportion(2, "5 12 11 8"), proportion(3, "8 18 16 12"),
                 proportion(4, "10 23 23 16"), proportion(5, "13 29 28 20"));
+        sentence("The share of a rider or driver is the sum of what both rules give.", """
+                line 3 40 7
+                aside 2 52
+                aside 5 47
+                aside 8 50
+                assign 0 0 = 4
+                assign 1 0 = 6
+                assign 2 0 = 0
+                tripCost 0 = 140
+                driverShare 0 = 18
+                share 0 = 46
+                share 1 = 59
+                share 2 = 17
+                complete 0 = 122
+                riderCredit 0 = -46
+                driverShare 0 = 18
+                """, """
+                line 1 40 7
+                driverShare 0 = 70
+                complete 0 = 0
+                driverCredit 0 = 0
+                """);
         sentence("For DONE drivers and riders the route stays as it was, so that their shares can "
                 + "still be asked.", """
                 line 4 40 3
@@ -1334,6 +1357,87 @@ public final class EdgeTest {
     }
 
     // ---- exceptions
+
+    private static void everyExceptionOnOneBoard() {
+        sentence("A method that throws an exception changes nothing.", """
+                line 2 20 3
+                line 1 0 1
+                aside 5 52
+                along 2 8
+                along 3 3
+                along 1 1
+                save 1
+                assign 0 0
+                assign 1 0
+                noShow 1
+                assign 2 1
+                complete 1
+                pay 3 44
+                setPenalty 42
+                text penalty 10000;
+                load = -1
+                text penalty 12;x
+                addDriver 0 1 1 1 ! IllegalArgumentException
+                setTrip 2 1 1 1 1 ! IndexOutOfBoundsException
+                setTrip 1 1 1 1 100 ! IllegalArgumentException
+                setTrip 0 1 1 1 1 ! IllegalStateException
+                setTrip 1 1 1 1 1 ! IllegalStateException
+                addRider 1 1 1 1 1 10000 ! IllegalArgumentException
+                isDone 2 ! IndexOutOfBoundsException
+                riderState 4 ! IndexOutOfBoundsException
+                driverOf 4 ! IndexOutOfBoundsException
+                ridersOf 2 ! IndexOutOfBoundsException
+                setPenalty 10000 ! IllegalArgumentException
+                stopCount 2 ! IndexOutOfBoundsException
+                stopRider 0 4 ! IndexOutOfBoundsException
+                arrival 0 4 ! IndexOutOfBoundsException
+                routeLength 2 ! IndexOutOfBoundsException
+                detour 2 ! IndexOutOfBoundsException
+                extra 0 2 ! IndexOutOfBoundsException
+                soloExtra 4 0 ! IndexOutOfBoundsException
+                bestDriver 4 ! IndexOutOfBoundsException
+                assign 3 2 ! IndexOutOfBoundsException
+                assign 3 1 ! IllegalStateException
+                assign 0 1 ! IllegalStateException
+                assign 1 0 ! IllegalStateException
+                unassign 4 ! IndexOutOfBoundsException
+                unassign 2 ! IllegalStateException
+                riderChoice 4 0 ! IndexOutOfBoundsException
+                driverChoice 2 0 ! IndexOutOfBoundsException
+                noShow 4 ! IndexOutOfBoundsException
+                noShow 1 ! IllegalStateException
+                comeBack 4 ! IndexOutOfBoundsException
+                comeBack 0 ! IllegalStateException
+                replacement 2 ! IndexOutOfBoundsException
+                fill 2 ! IndexOutOfBoundsException
+                tripCost 2 ! IndexOutOfBoundsException
+                marginal 4 ! IndexOutOfBoundsException
+                share 4 ! IndexOutOfBoundsException
+                driverShare 2 ! IndexOutOfBoundsException
+                complete 2 ! IndexOutOfBoundsException
+                complete 1 ! IllegalStateException
+                riderCredit 4 ! IndexOutOfBoundsException
+                driverCredit 2 ! IndexOutOfBoundsException
+                pay 4 1 ! IndexOutOfBoundsException
+                pay 0 10000 ! IllegalArgumentException
+                truncateText 13 ! IllegalArgumentException
+                save 2 ! IllegalArgumentException
+                restore 2 ! IllegalArgumentException
+                restore 0 ! IllegalStateException
+                errorCode = 2
+                errorPosition = 8
+                truncateText 11 = 11
+                load = 1
+                restore 1
+                riderState 0 = 0
+                setPenalty 0 = 500
+                """, times(8, "addDriver 1 0 0 1") + times(20, "addRider 1 2 3 4 5 6")
+                + times(150, "appendText 0x20202020") + """
+                addDriver 1 1 1 1 ! IllegalStateException
+                addRider 1 1 1 1 1 1 ! IllegalStateException
+                appendText 0x20202020 ! IllegalStateException
+                """);
+    }
 
     private static void orderOfExceptions() {
         sentence("If several exceptions apply, the one that comes first in the method's list of "
