@@ -2,10 +2,10 @@ import java.lang.reflect.InvocationTargetException;
 import java.util.Arrays;
 
 /**
- * Sentence by sentence of the document: each one that names a boundary case has a test of its own,
- * which is headed by its words. A test is one or more runs of calls, each on a new object, written
- * a call a line: "call = answer", "call ! exception", or the call alone, which must not throw.
- * A call that throws must change nothing: that is looked at for each such line.
+ * Sentence by sentence of the document: each one that names a boundary case, an argument or an
+ * answer has a test of its own, headed by its words. A test is one or more runs of calls, each on a
+ * new object, written a call a line: "call = answer", "call ! exception", or the call alone, which
+ * must not throw. A call that throws must change nothing: that is looked at for each such line.
  */
 public final class EdgeTest {
     private static final int CALLS_OF_AN_OBJECT = 512;
@@ -16,6 +16,7 @@ public final class EdgeTest {
     private static int wrong;
 
     public static void main(String[] args) {
+        allCallsOfAnObject();
         placesAndTimes();
         driversAndRiders();
         routes();
@@ -46,6 +47,10 @@ public final class EdgeTest {
         promise43();
         promises44And45();
         promises46And47();
+        whatIsAdded();
+        whatCallsReturn();
+        whatTextCallsReturn();
+        anyStateAndPlace();
         System.out.println(sentences + " sentences, " + checks + " checks, " + wrong + " wrong");
         if (wrong != 0) {
             System.exit(1);
@@ -250,6 +255,16 @@ public final class EdgeTest {
 
     private static String times(int count, String line) {
         return (line + "\n").repeat(count);
+    }
+
+    // ---- what it is
+
+    private static void allCallsOfAnObject() {
+        sentence("An object is used for at most 512 calls after it has been made",
+                times(511, "setPenalty 7") + "setPenalty 8 = 7",
+                "line 4 40 1\n" + times(20, "aside 5 51")
+                + times(97, "match\nsave 1\nfill 0\nrestore 1\nblockingPairs = 0")
+                + "match = 4\nfill 0 = 16\nstopCount 0 = 42\nstopRider 0 1 = 19\nshare 8 = 1");
     }
 
     // ---- places and times
@@ -1920,7 +1935,8 @@ public final class EdgeTest {
                 riderState 1 = 1
                 """);
         sentence("match: Returns the number of ASSIGNED riders.",
-                "match = 0", "along 1 2\nmatch = 0", "line 1 0 1\nmatch = 0", "line 1 0 1\nalong 1 2\nmatch = 1\nmatch = 1",
+                "match = 0", "along 1 2\nmatch = 0", "line 1 0 1\nmatch = 0",
+                "line 1 0 1\nalong 1 2\nmatch = 1\nmatch = 1",
                 "line 1 0 1\nalong 1 2\nassign 0 0\ncomplete 0\nmatch = 0\nriderState 0 = 3");
         sentence("Returns the driver at this place of the rider's preferences among the drivers "
                 + "that fit; NONE if there are not so many, or place is negative.", """
@@ -2674,6 +2690,264 @@ public final class EdgeTest {
                 errorPosition = 7
                 load = 1
                 setPenalty 0 = 3
+                """);
+    }
+
+    // ---- what the promises say of arguments and answers
+
+    private static void whatIsAdded() {
+        sentence("Adds a driver: seats, departure, the detour limit, rate", """
+                addDriver 3 400 12 7 = 0
+                setTrip 0 0 50 10 50
+                arrival 0 0 = 400
+                arrival 0 1 = 410
+                tripCost 0 = 70
+                along 2 8
+                along 2 8
+                along 2 8
+                along 2 8
+                aside 5 56
+                aside 5 57
+                soloExtra 4 0 = 12
+                soloExtra 5 0 = -1
+                assign 0 0 = 0
+                assign 1 0 = 0
+                assign 2 0 = 0
+                extra 3 0 = 12
+                """);
+        sentence("Returns the number of the driver.", """
+                addDriver 1 0 0 1 = 0
+                save 0
+                addDriver 1 0 0 1 = 1
+                addDriver 0 0 0 1 ! IllegalArgumentException
+                addDriver 1 0 0 1 = 2
+                restore 0
+                addDriver 1 0 0 1 = 1
+                complete 1
+                addDriver 1 0 0 1 = 2
+                text driver 1 1 1 1 1 1 1 1;driver 1 1 1 1 1 1 1 1;driver 1 1 1 1 1 1 1 1;
+                load = 3
+                addDriver 1 0 0 1 = 3
+                """);
+        sentence("startX, startY, endX, endY; returns the direct length.", """
+                addDriver 1 0 0 1
+                setTrip 0 30 45 10 20 = 45
+                setTrip 0 11 22 33 44 = 44
+                setTrip 0 11 22 33 100 ! IllegalArgumentException
+                routeLength 0 = 44
+                addRider 11 22 33 44 0 9999
+                addRider 10 22 33 44 0 9999
+                addRider 11 21 33 44 0 9999
+                addRider 11 22 34 44 0 9999
+                addRider 11 22 33 45 0 9999
+                soloExtra 0 0 = 0
+                soloExtra 1 0 = -1
+                soloExtra 2 0 = -1
+                soloExtra 3 0 = -1
+                soloExtra 4 0 = -1
+                """);
+        sentence("Adds a rider.", """
+                addRider 2 51 8 53 130 138 = 0
+                addRider 2 51 8 53 130 137 = 1
+                addRider 2 51 8 53 131 138 = 2
+                line 1 6 1
+                line 1 5 1
+                soloExtra 0 0 = 6
+                soloExtra 0 1 = -1
+                soloExtra 1 0 = -1
+                soloExtra 2 0 = -1
+                riderState 0 = 0
+                driverOf 0 = -1
+                riderCredit 0 = 0
+                assign 0 0 = 6
+                arrival 0 1 = 103
+                arrival 0 2 = 138
+                arrival 0 3 = 143
+                """);
+        sentence("Returns the number of the rider.", """
+                addRider 1 1 1 1 1 1 = 0
+                save 0
+                addRider 1 1 1 1 1 1 = 1
+                addRider 1 1 1 1 1 -1 ! IllegalArgumentException
+                addRider 1 1 1 1 1 1 = 2
+                restore 0
+                addRider 1 1 1 1 1 1 = 1
+                text rider 1 1 1 1 1 1;rider 1 1 1 1 1 1;rider 1 1 1 1 1 1;
+                load = 3
+                addRider 1 1 1 1 1 1 = 3
+                """);
+    }
+
+    private static void whatCallsReturn() {
+        sentence("Sets the penalty.", """
+                line 1 0 1
+                along 1 2
+                setPenalty 30 = 500
+                assign 0 0
+                noShow 0
+                setPenalty 40 = 30
+                riderCredit 0 = -30
+                comeBack 0 = -30
+                assign 0 0
+                noShow 0
+                riderCredit 0 = -70
+                driverCredit 0 = 70
+                """);
+        sentence("The stops have indexes from 0 (the start).", """
+                line 1 40 1
+                aside 5 53
+                assign 0 0
+                stopRider 0 -1 ! IndexOutOfBoundsException
+                stopRider 0 0 = -1
+                stopRider 0 1 = 0
+                stopRider 0 2 = 100
+                stopRider 0 3 = -1
+                stopRider 0 4 ! IndexOutOfBoundsException
+                arrival 0 -1 ! IndexOutOfBoundsException
+                arrival 0 0 = 100
+                arrival 0 1 = 108
+                arrival 0 2 = 108
+                arrival 0 3 = 116
+                arrival 0 4 ! IndexOutOfBoundsException
+                """);
+        sentence("Returns by how much the length of the route decreases.", """
+                line 2 40 1
+                aside 5 53
+                aside 5 55
+                assign 0 0 = 6
+                assign 1 0 = 4
+                unassign 0 = 0
+                assign 0 0 = 0
+                unassign 1 = 4
+                routeLength 0 = 16
+                unassign 0 = 6
+                routeLength 0 = 10
+                """);
+        sentence("Makes a matching.", """
+                line 1 40 1
+                line 1 40 2
+                aside 5 53
+                aside 5 51
+                match = 2
+                driverOf 0 = 1
+                driverOf 1 = 0
+                blockingPairs = 0
+                """);
+        sentence("fill: Returns the number of riders who were assigned.", """
+                line 1 4 1
+                aside 5 52
+                aside 5 51
+                aside 5 53
+                along 1 2
+                fill 0 = 3
+                ridersOf 0 = 11
+                fill 0 = 0
+                noShow 0
+                fill 0 = 0
+                comeBack 0
+                fill 0 = 1
+                """);
+        sentence("Returns that sum.", """
+                line 2 40 3
+                line 2 40 3
+                aside 5 51
+                aside 5 52
+                along 1 2
+                assign 0 0
+                assign 1 0
+                assign 2 1
+                pay 0 50
+                complete 0 = 32
+                driverCredit 0 = 32
+                noShow 2
+                comeBack 2
+                assign 2 1
+                complete 1 = 15
+                driverCredit 1 = 515
+                """);
+        sentence("pay: Returns the rider's credit then.", """
+                along 1 2
+                along 1 2
+                pay 1 5 = 5
+                pay 1 -7 = -2
+                pay 0 9999 = 9999
+                pay 0 1 = 10000
+                pay 1 0 = -2
+                """);
+    }
+
+    private static void whatTextCallsReturn() {
+        sentence("Returns the length of the text in bytes.", """
+                appendText 0x70656e61 = 4
+                appendText 0x6c747920 = 8
+                truncateText 5 = 5
+                appendText 0x6c747920 = 9
+                truncateText 0 = 0
+                appendText 0x20202020 = 4
+                load = 0
+                appendText 0x20202020 = 4
+                """);
+        sentence("fourBytes: the bytes", """
+                appendText -2147483648 = 4
+                appendText 2147483647 = 8
+                appendText -1 = 12
+                appendText 0 = 16
+                load = -1
+                errorPosition = 0
+                """, """
+                appendText 0x20202020 = 4
+                appendText 0x20207fff = 8
+                load = -1
+                errorCode = 1
+                errorPosition = 6
+                """);
+        sentence("Returns the new length.", """
+                text penalty 5;
+                truncateText 10 = 10
+                truncateText 9 = 9
+                truncateText 9 = 9
+                truncateText 0 = 0
+                truncateText 0 = 0
+                """);
+    }
+
+    private static void anyStateAndPlace() {
+        sentence("rider: a rider in any state; driver: a driver, OPEN or DONE", """
+                line 2 20 1
+                line 2 20 1
+                aside 5 51
+                extra 0 1 = 2
+                assign 0 0
+                extra 0 1 = 2
+                soloExtra 0 1 = 2
+                noShow 0
+                extra 0 0 = 2
+                extra 0 1 = 2
+                soloExtra 0 1 = 2
+                comeBack 0
+                assign 0 0
+                complete 0
+                extra 0 0 = -1
+                extra 0 1 = 2
+                soloExtra 0 0 = 2
+                soloExtra 0 1 = 2
+                complete 1
+                extra 0 1 = 2
+                soloExtra 0 1 = 2
+                bestDriver 0 = -1
+                """);
+        sentence("place: 0 for the best; 0 for the first one", """
+                line 1 40 2
+                line 1 40 1
+                aside 5 51
+                aside 5 50
+                riderChoice 0 0 = 1
+                riderChoice 0 1 = 0
+                driverChoice 0 0 = 1
+                driverChoice 0 1 = 0
+                pay 0 1
+                debtor 0 = 1
+                debtor 1 = 0
                 """);
     }
 }

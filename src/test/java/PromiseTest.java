@@ -129,6 +129,40 @@ public final class PromiseTest {
         due("meanDetourNumerator", c.meanDetourNumerator(), 0);
         due("meanDetourDenominator", c.meanDetourDenominator(), 1);
         due("NONE", Carpool.NONE, -1);
+        twoObjects();
+    }
+
+    private static void twoObjects() {
+        Carpool one = line(1, 40, 3);
+        addAside(one, 5, 51);
+        one.assign(0, 0);
+        one.setPenalty(7);
+        one.save(0);
+        write(one, "penalty");
+        due("load of the one", one.load(), NONE);
+        write(one, "penalty 5;");
+        Carpool other = new Carpool();
+        due("drivers of the other", other.driverCount(), 0);
+        due("riders of the other", other.riderCount(), 0);
+        due("the other's penalty", other.setPenalty(9), 500);
+        due("the other's error code", other.errorCode(), 0);
+        due("the other's error position", other.errorPosition(), NONE);
+        fails("restore(0) of the other", STATE, () -> restore(other, 0));
+        due("load of the other", other.load(), 0);
+        addLine(other, 2, 40, 5);
+        other.addRider(2, 50, 8, 50, 0, 9999);
+        due("match of the other", other.match(), 1);
+        other.save(0);
+        other.complete(0);
+        due("the one's share", one.share(0), 21);
+        due("the one's driver is open", one.isDone(0), false);
+        due("the one's error code", one.errorCode(), 1);
+        one.restore(0);
+        due("the one's route", one.routeLength(0), 12);
+        due("the one's penalty", one.setPenalty(8), 7);
+        due("load of the one", one.load(), 1);
+        due("the other's driver is done", other.isDone(0), true);
+        due("the other's credit", other.riderCredit(0), -25);
     }
 
     private static Object restore(Carpool c, int slot) {
